@@ -489,7 +489,7 @@ public final class TwoMachines {
         }
 
         private void step(int operation) {
-            boolean isSimple = operation > STOP && operation < SAME;
+            boolean isSimple = operation >= ADD && operation < SAME;
             if (operation > TO || (isSimple && !doSimple(operation))) {
                 ended = FAULTED;
                 return;
