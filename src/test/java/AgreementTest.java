@@ -7,17 +7,22 @@ import java.util.Random;
 public final class AgreementTest {
     private static final int PROGRAMS = 40000;
 
+    private static int compared = 0;
+    private static int halted = 0;
+
     public static void main(String[] args) {
+        Check.test("both machines do the same", AgreementTest::bothDoTheSame);
+        Check.test("enough is compared", () -> Check.due("more than a quarter", compared > PROGRAMS / 4, true));
+        Check.test("enough comes to HALT", () -> Check.due("more than a twentieth", halted > PROGRAMS / 20, true));
+        System.out.println(compared + " programs compared, " + halted + " of them came to HALT");
+        Check.finish();
+    }
+
+    private static void bothDoTheSame() {
         Random random = new Random(20261115);
-        int translated = 0;
-        int compared = 0;
-        int halted = 0;
         for (int i = 0; i < PROGRAMS; i++) {
             TwoMachines x = drawn(random);
-            if (x.translate() != 0) {
-                continue;
-            }
-            translated++;
+            Check.due("translate() of program " + i, x.translate(), 0);
             x.run(0, 150);
             x.run(1, 2000);
             if (x.result(0, 8) != 0 && x.result(1, 8) != 0) {
@@ -26,10 +31,6 @@ public final class AgreementTest {
                 compare("program " + i, x);
             }
         }
-        System.out.println(translated + " translated, " + compared + " compared, " + halted + " halted");
-        Check.due("enough is compared", compared > PROGRAMS / 4, true);
-        Check.due("enough comes to HALT", halted > PROGRAMS / 20, true);
-        Check.finish();
     }
 
     private static void compare(String name, TwoMachines x) {

@@ -9,34 +9,54 @@ import java.util.TreeSet;
 /** The public face: just the document's members, and nothing else that can be seen from outside. */
 public final class FaceTest {
     public static void main(String[] args) {
-        due("the class is public and final",
-            Modifier.isPublic(TwoMachines.class.getModifiers()) && Modifier.isFinal(TwoMachines.class.getModifiers()), true);
-        due("NONE", TwoMachines.NONE, -1);
-        due("the methods", methods(), new TreeSet<>(Arrays.asList(
-            "int add(int, int, int, int)", "int clear()", "int translate()", "int size()", "int code(int, int)",
-            "int begins(int)", "void register(int, int)", "void data(int, int)", "int run(int, int)",
-            "int result(int, int)", "int cell(int, int)", "int access(int, int, int)")));
-        due("the fields", fields(), new TreeSet<>(Arrays.asList("public static final int NONE")));
-        due("the constructors", constructors(), new TreeSet<>(Arrays.asList("public 0")));
+        Check.test("the class is public", () -> due(Modifier.isPublic(TwoMachines.class.getModifiers()), true));
+        Check.test("the class is final", () -> due(Modifier.isFinal(TwoMachines.class.getModifiers()), true));
+        Check.test("NONE", () -> due(TwoMachines.NONE, -1));
+        Check.test("the methods", () -> due(methods(), setOf(
+            "int add(int, int, int, int) throws IllegalArgumentException, IllegalStateException",
+            "int clear()",
+            "int translate()",
+            "int size()",
+            "int code(int, int) throws IllegalArgumentException, NoSuchElementException",
+            "int begins(int) throws NoSuchElementException",
+            "void register(int, int) throws IllegalArgumentException",
+            "void data(int, int) throws IllegalArgumentException",
+            "int run(int, int) throws IllegalArgumentException, IllegalStateException",
+            "int result(int, int)",
+            "int cell(int, int) throws IllegalArgumentException",
+            "int access(int, int, int) throws IllegalArgumentException, NoSuchElementException")));
+        Check.test("the constants", () -> due(fields(), setOf("public static final int NONE")));
+        Check.test("the constructor", () -> due(constructors(), setOf("public TwoMachines()")));
         Check.finish();
     }
 
-    private static void due(String call, Object got, Object want) {
-        Check.due(call, got, want);
+    private static void due(Object got, Object want) {
+        Check.due("TwoMachines", got, want);
+    }
+
+    private static Set<String> setOf(String... texts) {
+        return new TreeSet<>(Arrays.asList(texts));
     }
 
     private static Set<String> methods() {
         Set<String> found = new TreeSet<>();
         for (Method m : TwoMachines.class.getDeclaredMethods()) {
             if (!Modifier.isPrivate(m.getModifiers()) && !m.isSynthetic()) {
-                StringBuilder text = new StringBuilder();
-                for (Class<?> type : m.getParameterTypes()) {
-                    text.append(text.length() == 0 ? "" : ", ").append(type.getName());
-                }
-                found.add(m.getReturnType().getName() + " " + m.getName() + "(" + text + ")");
+                String head = m.getReturnType().getSimpleName() + " " + m.getName();
+                String exceptions = namesOf(m.getExceptionTypes());
+                found.add(head + "(" + namesOf(m.getParameterTypes()) + ")"
+                    + (exceptions.isEmpty() ? "" : " throws " + exceptions));
             }
         }
         return found;
+    }
+
+    private static String namesOf(Class<?>[] types) {
+        StringBuilder text = new StringBuilder();
+        for (Class<?> type : types) {
+            text.append(text.length() == 0 ? "" : ", ").append(type.getSimpleName());
+        }
+        return text.toString();
     }
 
     private static Set<String> fields() {
@@ -52,7 +72,8 @@ public final class FaceTest {
     private static Set<String> constructors() {
         Set<String> found = new TreeSet<>();
         for (Constructor<?> c : TwoMachines.class.getDeclaredConstructors()) {
-            found.add(Modifier.toString(c.getModifiers()) + " " + c.getParameterCount());
+            String head = Modifier.toString(c.getModifiers()) + " " + c.getName();
+            found.add(head + "(" + namesOf(c.getParameterTypes()) + ")");
         }
         return found;
     }

@@ -1,123 +1,187 @@
 /** Promises 8 and 9: register and data. */
 public final class StartTest {
-    private static final int[] NO_NUMBERS = {-32769, 32768, Integer.MIN_VALUE, Integer.MAX_VALUE, 65535};
-
     public static void main(String[] args) {
-        registersStart();
-        dataStart();
-        lateStartsWait();
-        startsOutliveRuns();
-        wrongRegisters();
-        wrongData();
-        codeStays();
+        register();
+        data();
         Check.finish();
     }
 
-    private static TwoMachines translatedHalt() {
-        TwoMachines x = Check.desk(0, 0, 0, 0);
-        x.translate();
-        return x;
+    private static void register() {
+        Check.test("promise 8: register 1 starts with v", () -> registerStarts(1, "0 5 0 0 0 0 0 0"));
+        Check.test("promise 8: register 3 starts with v", () -> registerStarts(3, "0 0 0 5 0 0 0 0"));
+        Check.test("promise 8: register 4 starts with v", () -> registerStarts(4, "0 0 0 0 5 0 0 0"));
+        Check.test("promise 8: register 7 starts with v", () -> registerStarts(7, "0 0 0 0 0 0 0 5"));
+        Check.test("promise 8: register 0 is none of these", () -> wrongRegister(0));
+        Check.test("promise 8: register -1 is none of these", () -> wrongRegister(-1));
+        Check.test("promise 8: register 8 is none of these", () -> wrongRegister(8));
+        Check.test("promise 8: a register far outside is none of these", () -> {
+            wrongRegister(Integer.MIN_VALUE);
+            wrongRegister(Integer.MAX_VALUE);
+        });
+        Check.test("promise 8: v may be -32768", () -> registerTakes(-32768));
+        Check.test("promise 8: v may be 32767", () -> registerTakes(32767));
+        Check.test("promise 8: -32769 is no number", () -> registerRefuses(-32769));
+        Check.test("promise 8: 32768 is no number", () -> registerRefuses(32768));
+        Check.test("promise 8: far outside is no number", () -> {
+            registerRefuses(Integer.MIN_VALUE);
+            registerRefuses(Integer.MAX_VALUE);
+        });
+        Check.test("promise 8: both wrong", () -> {
+            TwoMachines x = new TwoMachines();
+            Check.refused("register(0, 32768)", IllegalArgumentException.class, () -> x.register(0, 32768));
+            Check.refused("register(8, -32769)", IllegalArgumentException.class, () -> x.register(8, -32769));
+        });
+        Check.test("promise 8: the later v of two", StartTest::registerAgain);
+        Check.test("promise 8: only later runs start with it", StartTest::registerWaits);
+        Check.test("promise 8: the code stays", StartTest::registerKeepsTheCode);
     }
 
-    private static void registersStart() {
-        TwoMachines x = translatedHalt();
-        int[] starts = {0, 32767, -32768, 1, -1, 255, 24, -300};
-        for (int r = 1; r <= 7; r++) {
-            x.register(r, starts[r]);
-        }
-        for (int machine = 0; machine < 2; machine++) {
-            x.run(machine, 5);
-            Check.due("registers of " + machine, Check.registersOf(x, machine), "0 32767 -32768 1 -1 255 24 -300");
-            x.run(machine, 0);
-            Check.due("registers of an empty run", Check.registersOf(x, machine), "0 32767 -32768 1 -1 255 24 -300");
-        }
+    private static void data() {
+        Check.test("promise 9: cell 0 starts with v", () -> dataStarts(0));
+        Check.test("promise 9: cell 31 starts with v", () -> dataStarts(31));
+        Check.test("promise 9: there is no cell -1", () -> wrongCell(-1));
+        Check.test("promise 9: there is no cell 32", () -> wrongCell(32));
+        Check.test("promise 9: there is no cell where the target keeps a register", () -> wrongCell(36));
+        Check.test("promise 9: there is no cell far outside", () -> {
+            wrongCell(Integer.MIN_VALUE);
+            wrongCell(Integer.MAX_VALUE);
+        });
+        Check.test("promise 9: v may be -32768", () -> dataTakes(-32768));
+        Check.test("promise 9: v may be 32767", () -> dataTakes(32767));
+        Check.test("promise 9: -32769 is no number", () -> dataRefuses(-32769));
+        Check.test("promise 9: 32768 is no number", () -> dataRefuses(32768));
+        Check.test("promise 9: far outside is no number", () -> {
+            dataRefuses(Integer.MIN_VALUE);
+            dataRefuses(Integer.MAX_VALUE);
+        });
+        Check.test("promise 9: both wrong", () -> {
+            TwoMachines x = new TwoMachines();
+            Check.refused("data(32, 32768)", IllegalArgumentException.class, () -> x.data(32, 32768));
+            Check.refused("data(-1, -32769)", IllegalArgumentException.class, () -> x.data(-1, -32769));
+        });
+        Check.test("promise 9: the later v of two", StartTest::dataAgain);
+        Check.test("promise 9: only later runs start with it", StartTest::dataWaits);
+        Check.test("promise 9: the code stays", StartTest::dataKeepsTheCode);
+        Check.test("promise 9: starting is no access", StartTest::dataIsNoAccess);
+    }
+
+    private static void registerStarts(int r, String want) {
+        TwoMachines x = Check.desk("HALT");
+        x.register(r, 5);
+        Check.dueRegisters(x, want);
+    }
+
+    private static void wrongRegister(int r) {
+        TwoMachines x = Check.desk("HALT");
+        Check.refused("register(" + r + ", 5)", IllegalArgumentException.class, () -> x.register(r, 5));
+        Check.dueRegisters(x, "0 0 0 0 0 0 0 0");
+    }
+
+    private static void registerTakes(int v) {
+        TwoMachines x = Check.desk("HALT");
+        x.register(2, v);
+        x.register(6, v);
+        Check.dueRegisters(x, "0 0 " + v + " 0 0 0 " + v + " 0");
+    }
+
+    private static void registerRefuses(int v) {
+        TwoMachines x = Check.desk("HALT");
+        x.register(2, 70);
+        Check.refused("register(2, " + v + ")", IllegalArgumentException.class, () -> x.register(2, v));
+        Check.dueRegisters(x, "0 0 70 0 0 0 0 0");
+    }
+
+    private static void registerAgain() {
+        TwoMachines x = Check.desk("HALT");
+        x.register(2, 1);
+        x.register(2, -1);
+        x.register(7, 1);
         x.register(7, 0);
-        x.register(1, 2);
-        x.run(0, 5);
-        Check.due("registers set again", Check.registersOf(x, 0), "0 2 -32768 1 -1 255 24 0");
+        Check.dueRegisters(x, "0 0 -1 0 0 0 0 0");
     }
 
-    private static void dataStart() {
-        TwoMachines x = translatedHalt();
-        x.data(0, -32768);
-        x.data(31, 32767);
-        x.data(16, -5);
-        x.data(16, 5);
-        String want = "-32768 " + "0 ".repeat(15) + "5 " + "0 ".repeat(14) + "32767 ";
-        for (int machine = 0; machine < 2; machine++) {
-            x.run(machine, 5);
-            Check.due("data of " + machine, Check.dataOf(x, machine), want);
-            Check.due("starting is no access", x.result(machine, 11), 0);
-        }
-    }
-
-    private static void lateStartsWait() {
-        TwoMachines x = translatedHalt();
+    private static void registerWaits() {
+        TwoMachines x = Check.translated("HALT");
         x.register(2, 9);
-        x.data(2, 9);
         for (int machine = 0; machine < 2; machine++) {
-            Check.due("result before a run of " + machine, x.result(machine, 2), 0);
-            Check.due("cell before a run of " + machine, x.cell(machine, 2), 0);
+            Check.due("before a run of machine " + machine, x.result(machine, 2), 0);
             x.run(machine, 1);
         }
         x.register(2, 8);
+        for (int machine = 0; machine < 2; machine++) {
+            Check.due("of the latest run of machine " + machine, x.result(machine, 2), 9);
+            x.run(machine, 1);
+            Check.due("of a later run of machine " + machine, x.result(machine, 2), 8);
+        }
+    }
+
+    private static void registerKeepsTheCode() {
+        TwoMachines x = Check.translated("HALT");
+        x.register(1, 1);
+        Check.due("the code", Check.codeOf(x), "STOP 0 0 0; STOP 0 0 1");
+    }
+
+    private static void dataStarts(int a) {
+        TwoMachines x = Check.desk("HALT");
+        x.data(a, 5);
+        Check.onBoth(x, m -> Check.due("data of machine " + m, Check.dataOf(x, m), Check.dataWith(a, 5)));
+    }
+
+    private static void wrongCell(int a) {
+        TwoMachines x = Check.desk("HALT");
+        Check.refused("data(" + a + ", 5)", IllegalArgumentException.class, () -> x.data(a, 5));
+        Check.onBoth(x, m -> {
+            Check.due("data of machine " + m, Check.dataOf(x, m), Check.dataWith());
+            Check.due("registers of machine " + m, Check.registersOf(x, m), "0 0 0 0 0 0 0 0");
+        });
+    }
+
+    private static void dataTakes(int v) {
+        TwoMachines x = Check.desk("HALT");
+        x.data(16, v);
+        Check.onBoth(x, m -> Check.due("cell 16 of machine " + m, x.cell(m, 16), v));
+    }
+
+    private static void dataRefuses(int v) {
+        TwoMachines x = Check.desk("HALT");
+        x.data(16, 70);
+        Check.refused("data(16, " + v + ")", IllegalArgumentException.class, () -> x.data(16, v));
+        Check.onBoth(x, m -> Check.due("cell 16 of machine " + m, x.cell(m, 16), 70));
+    }
+
+    private static void dataAgain() {
+        TwoMachines x = Check.desk("HALT");
+        x.data(16, -5);
+        x.data(16, 5);
+        x.data(17, 5);
+        x.data(17, 0);
+        Check.onBoth(x, m -> Check.due("data of machine " + m, Check.dataOf(x, m), Check.dataWith(16, 5)));
+    }
+
+    private static void dataWaits() {
+        TwoMachines x = Check.translated("HALT");
+        x.data(2, 9);
+        for (int machine = 0; machine < 2; machine++) {
+            Check.due("before a run of machine " + machine, x.cell(machine, 2), 0);
+            x.run(machine, 1);
+        }
         x.data(2, 8);
         for (int machine = 0; machine < 2; machine++) {
-            Check.due("result of the latest run of " + machine, x.result(machine, 2), 9);
-            Check.due("cell of the latest run of " + machine, x.cell(machine, 2), 9);
+            Check.due("of the latest run of machine " + machine, x.cell(machine, 2), 9);
+            x.run(machine, 1);
+            Check.due("of a later run of machine " + machine, x.cell(machine, 2), 8);
         }
     }
 
-    private static void startsOutliveRuns() {
-        TwoMachines x = Check.desk(5, 5, 5, 1, 8, 5, 0, 4, 5, 1, 1, 3);
-        x.register(5, 10);
-        x.register(1, 1);
-        x.data(4, -1);
-        x.translate();
-        for (int time = 0; time < 2; time++) {
-            for (int machine = 0; machine < 2; machine++) {
-                x.run(machine, 100);
-                Check.due("register 1", x.result(machine, 1), 4);
-                Check.due("register 5", x.result(machine, 5), 11);
-                Check.due("cell 4", x.cell(machine, 4), 11);
-                x.run(machine, 0);
-                Check.due("register 5 at first", x.result(machine, 5), 10);
-                Check.due("cell 4 at first", x.cell(machine, 4), -1);
-            }
-        }
-    }
-
-    private static void wrongRegisters() {
-        TwoMachines x = translatedHalt();
-        x.register(7, 70);
-        for (int r : new int[] {0, -1, 8, Integer.MIN_VALUE, Integer.MAX_VALUE}) {
-            Check.refused("register(" + r + ", 1)", IllegalArgumentException.class, () -> x.register(r, 1));
-        }
-        for (int v : NO_NUMBERS) {
-            Check.refused("register(7, " + v + ")", IllegalArgumentException.class, () -> x.register(7, v));
-            Check.refused("register(0, " + v + ")", IllegalArgumentException.class, () -> x.register(0, v));
-        }
-        x.run(0, 1);
-        Check.due("refused starts change nothing", Check.registersOf(x, 0), "0 0 0 0 0 0 0 70");
-    }
-
-    private static void wrongData() {
-        TwoMachines x = translatedHalt();
-        x.data(31, 70);
-        for (int a : new int[] {-1, 32, 40, Integer.MIN_VALUE, Integer.MAX_VALUE}) {
-            Check.refused("data(" + a + ", 1)", IllegalArgumentException.class, () -> x.data(a, 1));
-        }
-        for (int v : NO_NUMBERS) {
-            Check.refused("data(31, " + v + ")", IllegalArgumentException.class, () -> x.data(31, v));
-        }
-        x.run(0, 1);
-        Check.due("refused starts change no cell", Check.dataOf(x, 0), "0 ".repeat(31) + "70 ");
-    }
-
-    private static void codeStays() {
-        TwoMachines x = translatedHalt();
-        x.register(1, 1);
+    private static void dataKeepsTheCode() {
+        TwoMachines x = Check.translated("HALT");
         x.data(1, 1);
-        Check.due("the code stays", Check.codeOf(x), "0 0 0 0; 0 0 0 1");
+        Check.due("the code", Check.codeOf(x), "STOP 0 0 0; STOP 0 0 1");
+    }
+
+    private static void dataIsNoAccess() {
+        TwoMachines x = Check.desk("HALT");
+        x.data(3, 3);
+        Check.dueAccesses(x, "");
     }
 }
