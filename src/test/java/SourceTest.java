@@ -129,8 +129,11 @@ public final class SourceTest {
     }
 
     private static void haltsFields() {
-        TwoMachines x = Check.desk("HALT 7 7 127; ADDN 1 0 1");
-        Check.dueRegisters(x, "0 0 0 0 0 0 0 0");
+        TwoMachines x = Check.desk("HALT 1 2 127; ADDN 1 0 1");
+        x.register(1, 10);
+        x.register(2, 20);
+        x.register(7, 70);
+        Check.dueRegisters(x, "0 10 20 0 0 0 0 70");
         Check.due("done", x.result(0, 10), 1);
     }
 
