@@ -7,7 +7,9 @@ import java.nio.file.Path;
 import java.util.ArrayList;
 import java.util.Arrays;
 import java.util.List;
+import java.util.Map;
 import java.util.Set;
+import java.util.TreeMap;
 import java.util.TreeSet;
 import java.util.regex.Matcher;
 import java.util.regex.Pattern;
@@ -16,6 +18,9 @@ import java.util.regex.Pattern;
 public final class LanguageTest {
     private static final String TEXT = withoutComments(read("src/main/java/TwoMachines.java"));
     private static final List<Class<?>> CLASSES = classes();
+    // A method (2: its name, 3: its lines) ends with the first line that closes it as far in as the one that opens it.
+    private static final Pattern METHOD =
+        Pattern.compile("(?ms)^( {4}| {8})(?! )[\\w\\[\\] ]*?(\\w+)\\([^)]*\\)[^;{]*\\{\n(.*?)^\\1\\}");
 
     public static void main(String[] args) {
         Check.test("rule 1: no private method bears the name of a public one", LanguageTest::namesOfMethods);
@@ -34,6 +39,8 @@ public final class LanguageTest {
             "IllegalArgumentException();", "IllegalStateException();", "NoSuchElementException();"));
         Check.test("rule 6: nothing else throws", () -> isNowhere("throw (?!new )"));
         Check.test("rule 6: words that are left out", () -> isNowhere("\\b(try|catch|finally|synchronized|assert)\\b"));
+        Check.test("rule 8: no recursion, and rule 11: calls go at most eight deep", LanguageTest::depthOfCalls);
+        Check.test("rule 9: every loop counts against a bound", LanguageTest::loops);
         Check.test("rule 10: joining texts not by +", () -> isNowhere("\"\\s*\\+|\\+\\s*\""));
         Check.test("rule 11: at most seven parameters", LanguageTest::parameters);
         Check.test("rule 11: some sixty lines a method", LanguageTest::linesOfMethods);
@@ -132,17 +139,43 @@ public final class LanguageTest {
         }
     }
 
-    /** A method ends with the first line that closes it, which stands as far in as the one that opens it. */
     private static void linesOfMethods() {
-        Pattern method = Pattern.compile("(?ms)^( {4}| {8})(?! )[\\w\\[\\] ]+\\([^)]*\\)[^;{]*\\{\n(.*?)^\\1\\}");
-        Matcher m = method.matcher(TEXT);
+        Matcher m = METHOD.matcher(TEXT);
         int methods = 0;
         while (m.find()) {
             methods++;
-            int lines = m.group(2).split("\n").length;
+            int lines = m.group(3).split("\n").length;
             Check.due("a method of " + lines + " lines is short", lines <= 60, true);
         }
         Check.due("methods are found", methods > 40, true);
+    }
+
+    /** Methods of one name are taken as one that calls all that they call: no call is missed so. */
+    private static void depthOfCalls() {
+        Map<String, String> bodies = new TreeMap<>();
+        Matcher m = METHOD.matcher(TEXT);
+        while (m.find()) {
+            bodies.merge(m.group(2), m.group(3), String::concat);
+        }
+        for (String name : bodies.keySet()) {
+            Check.due(name + " goes few deep", depthOf(name, bodies, 1) <= 8, true);
+        }
+    }
+
+    private static int depthOf(String name, Map<String, String> bodies, int depth) {
+        int deepest = depth;
+        Matcher call = Pattern.compile("(\\w+)\\(").matcher(bodies.get(name));
+        while (call.find() && deepest <= 8) {
+            if (bodies.containsKey(call.group(1))) {
+                deepest = Math.max(deepest, depthOf(call.group(1), bodies, depth + 1));
+            }
+        }
+        return deepest;
+    }
+
+    private static void loops() {
+        isNowhere("\\b(while|do)\\b");
+        isNowhere("for \\((?!int (\\w+) = [01]; \\1 < [\\w.]+( && ended == RUNNING)?; \\1\\+\\+\\))");
     }
 
     private static void fieldsOfClasses() {
